@@ -356,6 +356,7 @@ public final class VersionGroup {
                         values[k] = 0;
                     }
                     return had;
+                case GET:
                 default:
                     return values[k];
             }

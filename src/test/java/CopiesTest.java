@@ -1,0 +1,243 @@
+import java.util.ArrayList;
+import java.util.List;
+import java.util.Random;
+
+/** The terms of the document that answers alone do not show: logs, flushes, messages, copies. */
+final class CopiesTest {
+    private static final String KNOWN = "known";
+    private static final String FLUSHED = "flushed";
+
+    public static void main(String[] args) {
+        int runs = args.length > 0 ? Integer.parseInt(args[0]) : 300;
+        for (int run = 0; run < runs && !Check.failed(); run++) {
+            copiesFollowTheLog(run);
+        }
+        worksWithoutSettle();
+        movesWithTheMap();
+        nothingPassesButByMessages();
+        nothingIsDoneWithFewNodes();
+        nothingIsDoneWhileACopyIsDown();
+        crashLosesWhatIsNotFlushed();
+        crashKeepsWhatIsFlushed();
+        messagesToDownNodesAreLost();
+        Check.end();
+    }
+
+    /** After each call by chance every copy is right, and what was answered stands on R nodes. */
+    private static void copiesFollowTheLog(int run) {
+        Random random = new Random(run);
+        Pair pair = new Pair("copies, run " + run, 3 + random.nextInt(4), 2 + random.nextInt(2));
+        Inside inside = new Inside(pair.group);
+        for (int i = 0; i < 200 && !Check.failed(); i++) {
+            pair.callByChance(random);
+            dueCopies(pair, inside);
+            dueStanding(pair, inside);
+        }
+        pair.settle();
+        Check.due("under way after settle", inside.underWay(), 0);
+    }
+
+    private static void dueCopies(Pair pair, Inside inside) {
+        for (int n = 0; n < pair.model.nodes; n++) {
+            for (String memory : new String[] {KNOWN, FLUSHED}) {
+                int done = inside.done(n, memory);
+                int end = inside.end(n, memory);
+                boolean right = 0 <= done && done <= end && end <= pair.model.count(0) && end - done <= 8;
+                if (right) {
+                    List<Long> answers = new ArrayList<>();
+                    Integer[] table = Model.after(pair.model.commands(), done, answers);
+                    right = sameTable(inside.get("nodes", n, memory, "copy"), table, answers, end);
+                }
+                if (!right) {
+                    Check.holds("what node " + n + " has " + memory + ", " + pair.story(), false);
+                }
+            }
+        }
+    }
+
+    private static boolean sameTable(Object copy, Integer[] table, List<Long> answers, int end) {
+        long held = ((Number) Inside.field(copy, "held")).longValue();
+        int[] values = (int[]) Inside.field(copy, "values");
+        for (int k = 0; k < 40; k++) {
+            if ((held >>> k & 1) != (table[k] == null ? 0 : 1) || values[k] != (table[k] == null ? 0 : table[k])) {
+                return false;
+            }
+        }
+        int[] recent = (int[]) Inside.field(copy, "answers");
+        for (int i = Math.max(0, answers.size() - 8); i < answers.size(); i++) {
+            if (recent[i % 8] != answers.get(i)) {
+                return false;
+            }
+        }
+        Object[] log = (Object[]) Inside.field(copy, "log");
+        for (int i = Math.max(0, end - 8); i < end; i++) {
+            if (log[i % 8] == null || ((Number) Inside.field(log[i % 8], "number")).intValue() != i) {
+                return false;
+            }
+        }
+        return true;
+    }
+
+    private static void dueStanding(Pair pair, Inside inside) {
+        List<Long> answers = new ArrayList<>();
+        Model.after(pair.model.commands(), pair.model.count(0), answers);
+        for (int i = 0; i < answers.size(); i++) {
+            if (!inside.arrived(i)) {
+                continue;
+            }
+            int holders = 0;
+            for (int n = 0; n < pair.model.nodes; n++) {
+                holders += inside.end(n, FLUSHED) > i ? 1 : 0;
+            }
+            if (holders < pair.model.copies || inside.number("desk", "answers", i) != answers.get(i)) {
+                Check.holds("command " + i + " stands on " + holders + " nodes, " + pair.story(), false);
+            }
+        }
+    }
+
+    /** Lets ticks pass and all messages come, as a call of settle would, but by other calls. */
+    private static void run(VersionGroup group, int ticks) {
+        Inside inside = new Inside(group);
+        for (int i = 0; i < ticks; i++) {
+            for (int j = 0; j < 1000 && inside.underWay() > 0; j++) {
+                group.deliver(0);
+            }
+            group.tick(1);
+        }
+    }
+
+    private static void worksWithoutSettle() {
+        VersionGroup group = new VersionGroup(6, 3);
+        Inside inside = new Inside(group);
+        for (int i = 0; i < 8; i++) {
+            group.give(3, 0, 1);
+        }
+        run(group, 20);
+        for (int i = 0; i < 8; i++) {
+            Check.holds("the answer has come", inside.arrived(i));
+            Check.due("but is told at settle", group.answer(i), VersionGroup.PENDING);
+        }
+        Check.due("silence at the end", inside.underWay(), 0);
+        dueDone(inside, 0b110100, 8);
+    }
+
+    private static void dueDone(Inside inside, int keepers, int want) {
+        for (int n = 0; n < inside.nodes(); n++) {
+            int due = (keepers >>> n & 1) * want;
+            Check.due("done by node " + n, inside.done(n, FLUSHED), due);
+            Check.due("log of node " + n, inside.end(n, FLUSHED), due);
+        }
+    }
+
+    private static void movesWithTheMap() {
+        VersionGroup group = new VersionGroup(6, 3);
+        Inside inside = new Inside(group);
+        for (int i = 0; i < 12; i++) {
+            group.give(3, i, 1);
+            if (i == 7) {
+                group.settle();
+            }
+        }
+        group.map(0b001011);
+        run(group, 20);
+        dueDone(inside, 0b001011, 12);
+        group.map(0b101111);
+        run(group, 20);
+        dueDone(inside, 0b100110, 12);
+        group.crash(5, false);
+        group.map(0b011111);
+        run(group, 20);
+        Check.due("node 4 has a copy now", inside.done(4, FLUSHED), 12);
+        Check.due("node 5 knows of nothing", inside.number("nodes", 5, KNOWN, "epoch"), 4);
+        group.restart(5);
+        run(group, 20);
+        dueDone(inside, 0b010110, 12);
+    }
+
+    private static void nothingPassesButByMessages() {
+        VersionGroup group = new VersionGroup(4, 2);
+        Inside inside = new Inside(group);
+        group.give(0, 0, 1);
+        group.map(7);
+        for (int i = 0; i < 50; i++) {
+            for (int j = 0; j < 100 && inside.underWay() > 0; j++) {
+                group.lose(j);
+            }
+            group.tick(1);
+        }
+        dueDone(inside, 0, 0);
+        for (int n = 0; n < 4; n++) {
+            Check.due("the epoch that node " + n + " knows", inside.number("nodes", n, KNOWN, "epoch"), 1);
+        }
+    }
+
+    private static void nothingIsDoneWithFewNodes() {
+        VersionGroup group = new VersionGroup(5, 3);
+        group.map(0b00011);
+        run(group, 20);
+        group.give(0, 0, 1);
+        run(group, 20);
+        dueDone(new Inside(group), 0, 0);
+    }
+
+    private static void nothingIsDoneWhileACopyIsDown() {
+        VersionGroup group = new VersionGroup(3, 3);
+        group.crash(0, true);
+        group.give(0, 0, 1);
+        run(group, 20);
+        Inside inside = new Inside(group);
+        for (int n = 0; n < 3; n++) {
+            Check.due("done by node " + n, inside.done(n, KNOWN), 0);
+        }
+        group.restart(0);
+        run(group, 20);
+        dueDone(inside, 7, 1);
+    }
+
+    /** A leader that has taken a command and had no tick since. */
+    private static VersionGroup withCommandTaken() {
+        VersionGroup group = new VersionGroup(3, 2);
+        run(group, 10);
+        group.give(0, 0, 1);
+        group.deliver(0);
+        Inside inside = new Inside(group);
+        Check.due("the leader knows", inside.end(2, KNOWN), 1);
+        Check.due("not flushed yet", inside.end(2, FLUSHED), 0);
+        return group;
+    }
+
+    private static void crashLosesWhatIsNotFlushed() {
+        VersionGroup group = withCommandTaken();
+        group.crash(2, false);
+        group.restart(2);
+        Check.due("lost", new Inside(group).end(2, KNOWN), 0);
+    }
+
+    private static void crashKeepsWhatIsFlushed() {
+        VersionGroup kept = withCommandTaken();
+        kept.crash(2, true);
+        kept.restart(2);
+        Check.due("kept", new Inside(kept).end(2, KNOWN), 1);
+        kept.crash(2, false);
+        kept.restart(2);
+        Check.due("kept for good", new Inside(kept).end(2, KNOWN), 1);
+        VersionGroup ticked = withCommandTaken();
+        ticked.tick(1);
+        ticked.crash(2, false);
+        ticked.restart(2);
+        Check.due("flushed", new Inside(ticked).end(2, KNOWN), 1);
+    }
+
+    private static void messagesToDownNodesAreLost() {
+        VersionGroup group = new VersionGroup(3, 2);
+        run(group, 10);
+        group.crash(2, true);
+        group.give(0, 0, 1);
+        Inside inside = new Inside(group);
+        Check.due("under way", inside.underWay(), 1);
+        group.deliver(0);
+        Check.due("under way no more", inside.underWay(), 0);
+        group.restart(2);
+        Check.due("not heard", inside.end(2, KNOWN), 0);
+    }
+}

@@ -1,0 +1,29 @@
+/** Counts what is not as due, and ends the program accordingly. */
+final class Check {
+    private static int checks;
+    private static int wrong;
+
+    private Check() {
+    }
+
+    static void due(String what, long got, long want) {
+        checks++;
+        if (got != want) {
+            wrong++;
+            System.out.println(what + " answered " + got + ", due is " + want);
+        }
+    }
+
+    static void holds(String what, boolean holds) {
+        due(what, holds ? 1 : 0, 1);
+    }
+
+    static boolean failed() {
+        return wrong > 0;
+    }
+
+    static void end() {
+        System.out.println(checks + " checks, " + wrong + " not as due");
+        System.exit(wrong == 0 ? 0 : 1);
+    }
+}

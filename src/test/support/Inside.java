@@ -1,0 +1,55 @@
+import java.lang.reflect.Array;
+import java.lang.reflect.Field;
+
+/** Looks into a group, for what its answers do not show: where each copy stands. */
+final class Inside {
+    private final VersionGroup group;
+
+    Inside(VersionGroup group) {
+        this.group = group;
+    }
+
+    /** Follows the names from the group on; a number picks out of an array. */
+    Object get(Object... path) {
+        Object place = group;
+        for (Object step : path) {
+            place = step instanceof Integer ? Array.get(place, (Integer) step) : field(place, (String) step);
+        }
+        return place;
+    }
+
+    static Object field(Object place, String name) {
+        try {
+            Field field = place.getClass().getDeclaredField(name);
+            field.setAccessible(true);
+            return field.get(place);
+        } catch (ReflectiveOperationException e) {
+            throw new IllegalStateException(e);
+        }
+    }
+
+    int number(Object... path) {
+        return ((Number) get(path)).intValue();
+    }
+
+    int nodes() {
+        return Array.getLength(get("nodes"));
+    }
+
+    int underWay() {
+        return number("post", "size");
+    }
+
+    /** memory: what a node knows, or what it has flushed. */
+    int end(int n, String memory) {
+        return number("nodes", n, memory, "copy", "end");
+    }
+
+    int done(int n, String memory) {
+        return number("nodes", n, memory, "copy", "done");
+    }
+
+    boolean arrived(int command) {
+        return command < number("desk", "told") || (Boolean) get("desk", "arrived", command % 8);
+    }
+}
