@@ -371,7 +371,7 @@ public final class VersionGroup {
         boolean follow(Copy other, boolean whole) {
             if (!other.reachesBackTo(end)) {
                 if (whole) {
-                    copyAll(other);
+                    copyFrom(other, true);
                 }
                 return whole;
             }
@@ -384,19 +384,18 @@ public final class VersionGroup {
             return doUpTo(other.done) | changed;
         }
 
-        void copyLog(Copy other) {
+        /** Without the table this is no copy to keep, only what a message of entries needs. */
+        void copyFrom(Copy other, boolean whole) {
             done = other.done;
             end = other.end;
             for (int i = 0; i < WINDOW; i++) {
                 log[i] = other.log[i];
             }
-        }
-
-        void copyAll(Copy other) {
-            copyLog(other);
-            held = other.held;
-            System.arraycopy(other.values, 0, values, 0, KEYS);
-            System.arraycopy(other.answers, 0, answers, 0, WINDOW);
+            if (whole) {
+                held = other.held;
+                System.arraycopy(other.values, 0, values, 0, KEYS);
+                System.arraycopy(other.answers, 0, answers, 0, WINDOW);
+            }
         }
 
         void empty() {
@@ -641,9 +640,9 @@ public final class VersionGroup {
             return (keepers >>> n & 1) != 0;
         }
 
-        void copyAll(Memory other) {
+        void become(Memory other) {
             enter(other.epoch, other.keepers, other.leader);
-            copy.copyAll(other.copy);
+            copy.copyFrom(other.copy, true);
         }
     }
 
@@ -701,7 +700,7 @@ public final class VersionGroup {
 
         /** Entries before this one are flushed by all who keep copies. */
         int agreed(int keepers) {
-            int least = Integer.MAX_VALUE;
+            int least = CALLS;
             for (int n = 0; n < heard.length; n++) {
                 if ((keepers >>> n & 1) != 0) {
                     least = Math.min(least, heard[n] ? ends[n] : 0);
@@ -730,7 +729,7 @@ public final class VersionGroup {
             this.reports = new Reports(plan.nodes);
             int keepers = plan.keepers(plan.all());
             known.enter(1, keepers, plan.greatest(keepers));
-            flushed.copyAll(known);
+            flushed.become(known);
         }
 
         void fail(boolean kept) {
@@ -739,7 +738,7 @@ public final class VersionGroup {
                 flush();
                 return;
             }
-            known.copyAll(flushed);
+            known.become(flushed);
             reports.clear();
             dirty = false;
             owesHeard = false;
@@ -748,7 +747,7 @@ public final class VersionGroup {
 
         private void flush() {
             if (dirty) {
-                flushed.copyAll(known);
+                flushed.become(known);
                 dirty = false;
             }
         }
@@ -773,7 +772,7 @@ public final class VersionGroup {
                     reports.note(message.from, message.end, message.done);
                     break;
                 case FETCH:
-                    post.send(Kind.WHOLE, self, message.from, known.epoch).copy.copyAll(known.copy);
+                    post.send(Kind.WHOLE, self, message.from, known.epoch).copy.copyFrom(known.copy, true);
                     break;
                 case ENTRIES:
                 case WHOLE:
@@ -889,11 +888,9 @@ public final class VersionGroup {
         }
 
         private void sendCopy(int n) {
-            if (known.copy.reachesBackTo(reports.ends[n])) {
-                post.send(Kind.ENTRIES, self, n, known.epoch).copy.copyLog(known.copy);
-            } else {
-                post.send(Kind.WHOLE, self, n, known.epoch).copy.copyAll(known.copy);
-            }
+            boolean whole = !known.copy.reachesBackTo(reports.ends[n]);
+            Kind kind = whole ? Kind.WHOLE : Kind.ENTRIES;
+            post.send(kind, self, n, known.epoch).copy.copyFrom(known.copy, whole);
         }
     }
 }

@@ -20,6 +20,11 @@ final class CopiesTest {
         crashLosesWhatIsNotFlushed();
         crashKeepsWhatIsFlushed();
         messagesToDownNodesAreLost();
+        downNodesDoNotWork();
+        twiceComesTwice();
+        anOlderMapIsNotTaken();
+        messagesOfAnEarlierEpochAreNotTaken();
+        aCrashedLeaderAsksAnew();
         Check.end();
     }
 
@@ -29,7 +34,7 @@ final class CopiesTest {
         Pair pair = new Pair("copies, run " + run, 3 + random.nextInt(4), 2 + random.nextInt(2));
         Inside inside = new Inside(pair.group);
         for (int i = 0; i < 200 && !Check.failed(); i++) {
-            pair.callByChance(random);
+            pair.callByChance(random, run % 4 * 30);
             dueCopies(pair, inside);
             dueStanding(pair, inside);
         }
@@ -239,5 +244,80 @@ final class CopiesTest {
         Check.due("under way no more", inside.underWay(), 0);
         group.restart(2);
         Check.due("not heard", inside.end(2, KNOWN), 0);
+    }
+
+    private static void downNodesDoNotWork() {
+        VersionGroup group = new VersionGroup(3, 2);
+        for (int n = 0; n < 3; n++) {
+            group.crash(n, true);
+        }
+        group.tick(3);
+        Check.due("under way from down nodes", new Inside(group).underWay(), 0);
+    }
+
+    private static void twiceComesTwice() {
+        VersionGroup group = new VersionGroup(3, 2);
+        Inside inside = new Inside(group);
+        group.give(0, 0, 1);
+        for (int i = 0; i < 20 && inside.done(2, KNOWN) == 0; i++) {
+            run(group, 1);
+        }
+        Check.due("done by the leader", inside.done(2, KNOWN), 1);
+        group.lose(inside.place("ANSWER", -1));
+        Check.due("the answer is lost", inside.place("ANSWER", -1), -1);
+        group.tick(1);
+        int before = inside.underWay();
+        group.twice(inside.place("COMMAND", 2));
+        Check.due("one message less, two answers more", inside.underWay(), before + 1);
+        group.twice(inside.place("ANSWER", -1));
+        Check.holds("the answer has come", inside.arrived(0));
+    }
+
+    private static void anOlderMapIsNotTaken() {
+        VersionGroup group = new VersionGroup(3, 2);
+        Inside inside = new Inside(group);
+        group.map(3);
+        int older = inside.place("MAP", 0);
+        group.map(5);
+        group.deliver(inside.place("MAP", 0));
+        Check.due("the newer map", inside.number("nodes", 0, KNOWN, "epoch"), 3);
+        group.deliver(older);
+        Check.due("still the newer map", inside.number("nodes", 0, KNOWN, "epoch"), 3);
+        Check.due("its copies", inside.number("nodes", 0, KNOWN, "keepers"), 5);
+    }
+
+    /** A node is told to drop its copy, but first it hears of a map in which it is to keep it. */
+    private static void messagesOfAnEarlierEpochAreNotTaken() {
+        VersionGroup group = new VersionGroup(3, 2);
+        Inside inside = new Inside(group);
+        group.give(0, 0, 1);
+        run(group, 20);
+        dueDone(inside, 0b110, 1);
+        group.map(0b011);
+        for (int i = 0; i < 20 && inside.place("DROP", 2) < 0; i++) {
+            run(group, 1);
+        }
+        group.map(0b110);
+        group.deliver(inside.place("MAP", 2));
+        Check.holds("the word to drop is under way", inside.place("DROP", 2) >= 0);
+        group.deliver(inside.place("DROP", 2));
+        Check.due("node 2 keeps its copy", inside.end(2, KNOWN), 1);
+        run(group, 20);
+        dueDone(inside, 0b110, 1);
+    }
+
+    private static void aCrashedLeaderAsksAnew() {
+        for (int kept = 0; kept < 2; kept++) {
+            VersionGroup group = new VersionGroup(3, 2);
+            Inside inside = new Inside(group);
+            run(group, 10);
+            Check.holds("the leader is ready", (Boolean) inside.get("nodes", 2, "reports", "ready"));
+            group.crash(2, kept == 1);
+            group.restart(2);
+            Check.holds("what it heard stands or does not",
+                (Boolean) inside.get("nodes", 2, "reports", "ready") == (kept == 1));
+            group.tick(1);
+            Check.due("it asks", inside.place("ASK", 0) >= 0 ? 1 : 0, 1 - kept);
+        }
     }
 }

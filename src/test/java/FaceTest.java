@@ -58,6 +58,10 @@ final class FaceTest {
                 names.add(method.getName());
             }
         }
+        for (Method method : VersionGroup.class.getDeclaredMethods()) {
+            Check.holds("a private " + method.getName(),
+                Modifier.isPublic(method.getModifiers()) || !names.contains(method.getName()));
+        }
         for (Class<?> inside : VersionGroup.class.getDeclaredClasses()) {
             Check.holds(inside + " is static", Modifier.isStatic(inside.getModifiers()));
             for (Method method : inside.getDeclaredMethods()) {

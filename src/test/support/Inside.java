@@ -40,6 +40,21 @@ final class Inside {
         return number("post", "size");
     }
 
+    Object message(int place, String field) {
+        return get("post", "slots", number("post", "order", place), field);
+    }
+
+    /** The place of the last message of a kind that goes to a node, or to outside (-1). */
+    int place(String kind, int to) {
+        int found = -1;
+        for (int i = 0; i < underWay(); i++) {
+            if (message(i, "kind").toString().equals(kind) && (Integer) message(i, "to") == to) {
+                found = i;
+            }
+        }
+        return found;
+    }
+
     /** memory: what a node knows, or what it has flushed. */
     int end(int n, String memory) {
         return number("nodes", n, memory, "copy", "end");

@@ -9,6 +9,7 @@ final class Pair {
     private final String name;
     private final List<String> calls = new ArrayList<>();
     private boolean wrong;
+    private int number;
 
     Pair(String name, int nodes, int copies) {
         this.name = name;
@@ -17,24 +18,39 @@ final class Pair {
         calls.add("new(" + nodes + ", " + copies + ")");
     }
 
-    boolean isWrong() {
-        return wrong;
+    int callsSoFar() {
+        return number;
     }
 
     String story() {
         return name + ": " + String.join("; ", calls);
     }
 
-    private void due(String call, long got, long want) {
+    private void note(String call) {
         calls.add(call);
-        compare("", got, want);
+        number++;
+    }
+
+    private void due(String call, long got, long want) {
+        note(call);
+        if (got != want) {
+            judge(story(), got, want);
+        }
     }
 
     /** For calls that only ask: they would make the story long and explain nothing. */
     private void compare(String call, long got, long want) {
-        if (got != want && !wrong) {
+        number++;
+        if (got != want) {
+            judge(story() + "; " + call, got, want);
+        }
+    }
+
+    /** Only the first fault of a pair is told: the others follow from it. */
+    private void judge(String story, long got, long want) {
+        if (!wrong) {
             wrong = true;
-            Check.due(story() + (call.isEmpty() ? "" : "; " + call), got, want);
+            Check.due(story, got, want);
         }
     }
 
@@ -43,19 +59,19 @@ final class Pair {
     }
 
     void deliver(int k) {
-        calls.add("deliver(" + k + ")");
+        note("deliver(" + k + ")");
         group.deliver(k);
         model.disturb();
     }
 
     void lose(int k) {
-        calls.add("lose(" + k + ")");
+        note("lose(" + k + ")");
         group.lose(k);
         model.disturb();
     }
 
     void twice(int k) {
-        calls.add("twice(" + k + ")");
+        note("twice(" + k + ")");
         group.twice(k);
         model.disturb();
     }
@@ -96,7 +112,7 @@ final class Pair {
         compare("count(" + what + ")", group.count(what), model.count(what));
     }
 
-    /** All that can be seen; more calls than the document's limit leaves for a long run. */
+    /** All that can be seen. */
     void compareAll() {
         for (int what = -1; what < 7; what++) {
             count(what);
@@ -113,8 +129,26 @@ final class Pair {
         }
     }
 
-    /** A call by chance; few keys and small numbers, so that commands touch one another. */
-    void callByChance(Random random) {
+    /** Calls by chance: in pace of 100 cases such as help the nodes on with their work. */
+    void callByChance(Random random, int pace) {
+        if (random.nextInt(100) < pace) {
+            helpOn(random);
+        } else {
+            disturbOrAsk(random);
+        }
+    }
+
+    private void helpOn(Random random) {
+        tick(1);
+        // Most messages come, in any order; those that wait come in a later epoch.
+        int most = random.nextInt(20);
+        for (int i = 0; i < most; i++) {
+            deliver(random.nextInt());
+        }
+    }
+
+    /** Few keys and small numbers, so that commands touch one another. */
+    private void disturbOrAsk(Random random) {
         switch (random.nextInt(20)) {
             case 0: case 1: case 2: case 3:
                 give(random.nextInt(5), random.nextInt(4), random.nextInt(4));
