@@ -624,7 +624,7 @@ public final class VersionGroup {
 
     /** What a node knows and must not lose. */
     private static final class Memory {
-        int epoch = 1;
+        int epoch;
         /** The nodes that keep copies in this epoch, and the first of them, who leads. */
         int keepers;
         int leader;

@@ -25,6 +25,10 @@ final class CopiesTest {
         anOlderMapIsNotTaken();
         messagesOfAnEarlierEpochAreNotTaken();
         aCrashedLeaderAsksAnew();
+        theEpochIsFlushed();
+        theSameMapAgainChangesNothing();
+        aNewLeaderWaitsForJustEnoughNodes();
+        aNodeThatWasDownCatchesUp();
         Check.end();
     }
 
@@ -100,24 +104,13 @@ final class CopiesTest {
         }
     }
 
-    /** Lets ticks pass and all messages come, as a call of settle would, but by other calls. */
-    private static void run(VersionGroup group, int ticks) {
-        Inside inside = new Inside(group);
-        for (int i = 0; i < ticks; i++) {
-            for (int j = 0; j < 1000 && inside.underWay() > 0; j++) {
-                group.deliver(0);
-            }
-            group.tick(1);
-        }
-    }
-
     private static void worksWithoutSettle() {
         VersionGroup group = new VersionGroup(6, 3);
         Inside inside = new Inside(group);
         for (int i = 0; i < 8; i++) {
             group.give(3, 0, 1);
         }
-        run(group, 20);
+        Groups.run(group, 20);
         for (int i = 0; i < 8; i++) {
             Check.holds("the answer has come", inside.arrived(i));
             Check.due("but is told at settle", group.answer(i), VersionGroup.PENDING);
@@ -144,18 +137,18 @@ final class CopiesTest {
             }
         }
         group.map(0b001011);
-        run(group, 20);
+        Groups.run(group, 20);
         dueDone(inside, 0b001011, 12);
         group.map(0b101111);
-        run(group, 20);
+        Groups.run(group, 20);
         dueDone(inside, 0b100110, 12);
         group.crash(5, false);
         group.map(0b011111);
-        run(group, 20);
+        Groups.run(group, 20);
         Check.due("node 4 has a copy now", inside.done(4, FLUSHED), 12);
         Check.due("node 5 knows of nothing", inside.number("nodes", 5, KNOWN, "epoch"), 4);
         group.restart(5);
-        run(group, 20);
+        Groups.run(group, 20);
         dueDone(inside, 0b010110, 12);
     }
 
@@ -179,9 +172,9 @@ final class CopiesTest {
     private static void nothingIsDoneWithFewNodes() {
         VersionGroup group = new VersionGroup(5, 3);
         group.map(0b00011);
-        run(group, 20);
+        Groups.run(group, 20);
         group.give(0, 0, 1);
-        run(group, 20);
+        Groups.run(group, 20);
         dueDone(new Inside(group), 0, 0);
     }
 
@@ -189,20 +182,20 @@ final class CopiesTest {
         VersionGroup group = new VersionGroup(3, 3);
         group.crash(0, true);
         group.give(0, 0, 1);
-        run(group, 20);
+        Groups.run(group, 20);
         Inside inside = new Inside(group);
         for (int n = 0; n < 3; n++) {
             Check.due("done by node " + n, inside.done(n, KNOWN), 0);
         }
         group.restart(0);
-        run(group, 20);
+        Groups.run(group, 20);
         dueDone(inside, 7, 1);
     }
 
     /** A leader that has taken a command and had no tick since. */
     private static VersionGroup withCommandTaken() {
         VersionGroup group = new VersionGroup(3, 2);
-        run(group, 10);
+        Groups.run(group, 10);
         group.give(0, 0, 1);
         group.deliver(0);
         Inside inside = new Inside(group);
@@ -235,7 +228,7 @@ final class CopiesTest {
 
     private static void messagesToDownNodesAreLost() {
         VersionGroup group = new VersionGroup(3, 2);
-        run(group, 10);
+        Groups.run(group, 10);
         group.crash(2, true);
         group.give(0, 0, 1);
         Inside inside = new Inside(group);
@@ -260,7 +253,7 @@ final class CopiesTest {
         Inside inside = new Inside(group);
         group.give(0, 0, 1);
         for (int i = 0; i < 20 && inside.done(2, KNOWN) == 0; i++) {
-            run(group, 1);
+            Groups.run(group, 1);
         }
         Check.due("done by the leader", inside.done(2, KNOWN), 1);
         group.lose(inside.place("ANSWER", -1));
@@ -291,18 +284,18 @@ final class CopiesTest {
         VersionGroup group = new VersionGroup(3, 2);
         Inside inside = new Inside(group);
         group.give(0, 0, 1);
-        run(group, 20);
+        Groups.run(group, 20);
         dueDone(inside, 0b110, 1);
         group.map(0b011);
         for (int i = 0; i < 20 && inside.place("DROP", 2) < 0; i++) {
-            run(group, 1);
+            Groups.run(group, 1);
         }
         group.map(0b110);
         group.deliver(inside.place("MAP", 2));
         Check.holds("the word to drop is under way", inside.place("DROP", 2) >= 0);
         group.deliver(inside.place("DROP", 2));
         Check.due("node 2 keeps its copy", inside.end(2, KNOWN), 1);
-        run(group, 20);
+        Groups.run(group, 20);
         dueDone(inside, 0b110, 1);
     }
 
@@ -310,7 +303,7 @@ final class CopiesTest {
         for (int kept = 0; kept < 2; kept++) {
             VersionGroup group = new VersionGroup(3, 2);
             Inside inside = new Inside(group);
-            run(group, 10);
+            Groups.run(group, 10);
             Check.holds("the leader is ready", (Boolean) inside.get("nodes", 2, "reports", "ready"));
             group.crash(2, kept == 1);
             group.restart(2);
@@ -318,6 +311,91 @@ final class CopiesTest {
                 (Boolean) inside.get("nodes", 2, "reports", "ready") == (kept == 1));
             group.tick(1);
             Check.due("it asks", inside.place("ASK", 0) >= 0 ? 1 : 0, 1 - kept);
+        }
+    }
+
+    private static void theEpochIsFlushed() {
+        for (int ticks = 0; ticks < 2; ticks++) {
+            VersionGroup group = new VersionGroup(3, 2);
+            Inside inside = new Inside(group);
+            group.map(3);
+            group.deliver(inside.place("MAP", 0));
+            if (ticks == 1) {
+                group.tick(1);
+            }
+            group.crash(0, false);
+            group.restart(0);
+            Check.due("the epoch after " + ticks + " ticks", inside.number("nodes", 0, KNOWN, "epoch"), 1 + ticks);
+        }
+    }
+
+    private static void theSameMapAgainChangesNothing() {
+        VersionGroup group = Groups.calm(3, 2);
+        Inside inside = new Inside(group);
+        group.map(7);
+        group.deliver(0);
+        group.deliver(0);
+        Check.due("the first under way goes to node 2", inside.place("MAP", 2), 0);
+        for (int i = 0; i < 10; i++) {
+            group.tick(1);
+            for (int j = 0; j < 1000 && inside.underWay() > 1; j++) {
+                group.deliver(1);
+            }
+        }
+        Check.holds("the leader is ready", (Boolean) inside.get("nodes", 2, "reports", "ready"));
+        Check.due("the map is still under way", inside.place("MAP", 2), 0);
+        group.deliver(0);
+        Check.holds("the leader stays ready", (Boolean) inside.get("nodes", 2, "reports", "ready"));
+    }
+
+    /** So many as have one in common with every R nodes, in whatever epoch these kept the copies. */
+    private static void aNewLeaderWaitsForJustEnoughNodes() {
+        for (int nodes = 3; nodes <= 6; nodes++) {
+            for (int copies = 2; copies <= 3; copies++) {
+                for (int up = 0; up < 1 << nodes; up++) {
+                    dueReady(nodes, copies, up);
+                }
+            }
+        }
+    }
+
+    private static void dueReady(int nodes, int copies, int up) {
+        int keepers = Groups.keepers(nodes, copies, -1);
+        if ((up & keepers) != keepers) {
+            return;
+        }
+        VersionGroup group = Groups.calm(nodes, copies);
+        for (int n = 0; n < nodes; n++) {
+            if ((up >>> n & 1) == 0) {
+                group.crash(n, false);
+            }
+        }
+        group.map(-1);
+        group.give(0, 0, 1);
+        Groups.run(group, 10);
+        Check.holds("up are " + up + " of " + nodes + ", " + copies + " copies",
+            new Inside(group).arrived(0) == (Integer.bitCount(up) > nodes - copies));
+    }
+
+    /** Node 5 keeps a copy, is down while others do so many commands, and keeps it again. */
+    private static void aNodeThatWasDownCatchesUp() {
+        for (int before = 0; before <= 20; before++) {
+            for (int missed = 0; missed <= 8; missed++) {
+                VersionGroup group = Groups.calm(6, 3);
+                for (int i = 0; i < before; i++) {
+                    Groups.answerTo(group, 3, 0, 1);
+                }
+                group.crash(5, false);
+                group.map(0b011111);
+                Groups.giveMany(group, missed);
+                Groups.run(group, 15);
+                Inside inside = new Inside(group);
+                Check.due("done by node 4", inside.done(4, FLUSHED), before + missed);
+                Check.due("done by node 5", inside.done(5, FLUSHED), before);
+                Check.due("settle", group.settle(), missed);
+                Check.due("done by node 5 then", inside.done(5, FLUSHED), before + missed);
+                Check.due("the value", group.at(5, 0, 1), before + missed);
+            }
         }
     }
 }

@@ -4,8 +4,8 @@ final class PromiseTest {
     private static final int FULL = VersionGroup.FULL;
     private static final int BUSY = VersionGroup.BUSY;
     private static final long PENDING = VersionGroup.PENDING;
-    private static final int MIN = Integer.MIN_VALUE;
-    private static final int MAX = Integer.MAX_VALUE;
+    private static final int MIN = Groups.MIN;
+    private static final int MAX = Groups.MAX;
 
     public static void main(String[] args) {
         constants();
@@ -31,21 +31,8 @@ final class PromiseTest {
         Check.end();
     }
 
-    private static VersionGroup calm(int nodes, int copies) {
-        VersionGroup group = new VersionGroup(nodes, copies);
-        group.settle();
-        return group;
-    }
-
     private static void dueCalm(String after, VersionGroup group, int want) {
         Check.due("calm after " + after, group.count(5), want);
-    }
-
-    /** Gives one command and settles. */
-    private static long done(VersionGroup group, int kind, int k, int v) {
-        int number = group.give(kind, k, v);
-        group.settle();
-        return group.answer(number);
     }
 
     private static void constants() {
@@ -103,7 +90,7 @@ final class PromiseTest {
     }
 
     private static void promise2Give() {
-        VersionGroup group = calm(3, 2);
+        VersionGroup group = Groups.calm(3, 2);
         int[][] wrong = {
             {-1, 0, 0}, {5, 0, 0}, {MIN, 0, 0}, {MAX, 0, 0}, {0, -1, 0}, {0, 40, 0}, {1, -1, 0}, {2, 40, 0},
             {3, MIN, 0}, {4, MAX, 0}, {4, 0, -1}, {4, 0, 40}, {4, 0, MIN}, {4, 0, MAX}, {4, 40, 0}, {5, 40, 40}};
@@ -121,7 +108,7 @@ final class PromiseTest {
     }
 
     private static void promise2Full() {
-        VersionGroup group = calm(6, 3);
+        VersionGroup group = Groups.calm(6, 3);
         for (int round = 0; round < 5; round++) {
             for (int i = 0; i < 8; i++) {
                 Check.due("2: give", group.give(3, 1, 1), round * 8 + i);
@@ -142,32 +129,32 @@ final class PromiseTest {
 
     private static void promise2Commands() {
         VersionGroup group = new VersionGroup(4, 3);
-        Check.due("SET none", done(group, 0, 5, 0), 0);
-        Check.due("SET to 0 counts as a value", done(group, 0, 5, 77), 1);
-        Check.due("GET", done(group, 2, 5, 123), 77);
-        Check.due("GET none", done(group, 2, 6, 123), 0);
-        Check.due("ADD", done(group, 3, 5, 3), 80);
-        Check.due("ADD none", done(group, 3, 7, -1), -1);
-        Check.due("SET most", done(group, 0, 7, MAX), 1);
-        Check.due("ADD wraps", done(group, 3, 7, 1), MIN);
-        Check.due("ADD wraps back", done(group, 3, 7, -1), MAX);
-        Check.due("CLEAR", done(group, 1, 7, 9), 1);
-        Check.due("CLEAR none", done(group, 1, 7, 9), 0);
-        Check.due("GET cleared", done(group, 2, 7, 9), 0);
-        Check.due("ADD 0 to none", done(group, 3, 7, 0), 0);
+        Check.due("SET none", Groups.answerTo(group, 0, 5, 0), 0);
+        Check.due("SET to 0 counts as a value", Groups.answerTo(group, 0, 5, 77), 1);
+        Check.due("GET", Groups.answerTo(group, 2, 5, 123), 77);
+        Check.due("GET none", Groups.answerTo(group, 2, 6, 123), 0);
+        Check.due("ADD", Groups.answerTo(group, 3, 5, 3), 80);
+        Check.due("ADD none", Groups.answerTo(group, 3, 7, -1), -1);
+        Check.due("SET most", Groups.answerTo(group, 0, 7, MAX), 1);
+        Check.due("ADD wraps", Groups.answerTo(group, 3, 7, 1), MIN);
+        Check.due("ADD wraps back", Groups.answerTo(group, 3, 7, -1), MAX);
+        Check.due("CLEAR", Groups.answerTo(group, 1, 7, 9), 1);
+        Check.due("CLEAR none", Groups.answerTo(group, 1, 7, 9), 0);
+        Check.due("GET cleared", Groups.answerTo(group, 2, 7, 9), 0);
+        Check.due("ADD 0 to none", Groups.answerTo(group, 3, 7, 0), 0);
         Check.due("ADD 0 made a value", group.at(2, 7, 0), 1);
-        Check.due("MOVE to itself", done(group, 4, 5, 5), 1);
-        Check.due("MOVE to itself keeps", done(group, 2, 5, 0), 80);
-        Check.due("MOVE none to itself", done(group, 4, 9, 9), 0);
-        Check.due("MOVE over a value", done(group, 4, 5, 7), 1);
+        Check.due("MOVE to itself", Groups.answerTo(group, 4, 5, 5), 1);
+        Check.due("MOVE to itself keeps", Groups.answerTo(group, 2, 5, 0), 80);
+        Check.due("MOVE none to itself", Groups.answerTo(group, 4, 9, 9), 0);
+        Check.due("MOVE over a value", Groups.answerTo(group, 4, 5, 7), 1);
         Check.due("MOVE leaves none", group.at(2, 5, 0), 0);
         Check.due("MOVE leaves 0", group.at(2, 5, 1), 0);
         Check.due("MOVE brings", group.at(2, 7, 1), 80);
-        Check.due("MOVE none over a value", done(group, 4, 9, 7), 0);
+        Check.due("MOVE none over a value", Groups.answerTo(group, 4, 9, 7), 0);
         Check.due("MOVE none leaves none", group.at(2, 7, 0), 0);
         Check.due("MOVE none leaves 0", group.at(2, 7, 1), 0);
-        Check.due("SET key 39", done(group, 0, 39, MIN), 0);
-        Check.due("MOVE 39 to 0", done(group, 4, 39, 0), 1);
+        Check.due("SET key 39", Groups.answerTo(group, 0, 39, MIN), 0);
+        Check.due("MOVE 39 to 0", Groups.answerTo(group, 4, 39, 0), 1);
         Check.due("MOVE brought", group.at(1, 0, 1), MIN);
         Check.due("SET none in order", group.give(0, 20, 1), group.count(0) - 1);
         group.give(4, 20, 21);
@@ -183,7 +170,7 @@ final class PromiseTest {
     private static void promises3To5Messages() {
         int[] places = {0, 1, -1, 63, MAX, MIN};
         for (int k : places) {
-            VersionGroup group = calm(5, 2);
+            VersionGroup group = Groups.calm(5, 2);
             group.deliver(k);
             dueCalm("3: deliver of nothing", group, 0);
             group.settle();
@@ -210,7 +197,7 @@ final class PromiseTest {
 
     private static void promises3To5Losses() {
         for (int way = 0; way < 3; way++) {
-            VersionGroup group = calm(6, 3);
+            VersionGroup group = Groups.calm(6, 3);
             for (int i = 0; i < 8; i++) {
                 group.give(3, 0, 1 << i);
             }
@@ -234,7 +221,7 @@ final class PromiseTest {
     }
 
     private static void promise6Stir() {
-        VersionGroup group = calm(4, 3);
+        VersionGroup group = Groups.calm(4, 3);
         int[] wrong = {0, -1, 501, MIN, MAX};
         for (int n : wrong) {
             Check.due("6: stir wrong", group.stir(n, 1), REFUSED);
@@ -254,7 +241,7 @@ final class PromiseTest {
     }
 
     private static void promise7Tick() {
-        VersionGroup group = calm(4, 2);
+        VersionGroup group = Groups.calm(4, 2);
         int[] wrong = {0, -1, 51, MIN, MAX};
         for (int n : wrong) {
             Check.due("7: tick wrong", group.tick(n), REFUSED);
@@ -271,7 +258,7 @@ final class PromiseTest {
     }
 
     private static void promise8Crash() {
-        VersionGroup group = calm(3, 2);
+        VersionGroup group = Groups.calm(3, 2);
         int[] wrong = {-1, 3, 6, MIN, MAX};
         for (int n : wrong) {
             Check.holds("8: no such node", !group.crash(n, true) && !group.crash(n, false));
@@ -295,7 +282,7 @@ final class PromiseTest {
     /** What was done stands, whether or not nodes keep what they had not flushed. */
     private static void promise8Kept() {
         for (int way = 0; way < 4; way++) {
-            VersionGroup group = calm(5, 3);
+            VersionGroup group = Groups.calm(5, 3);
             for (int round = 0; round < 10; round++) {
                 group.give(3, 3, 1);
                 group.give(3, 30 + round % 5, 1);
@@ -312,7 +299,7 @@ final class PromiseTest {
     }
 
     private static void promise9Restart() {
-        VersionGroup group = calm(3, 2);
+        VersionGroup group = Groups.calm(3, 2);
         int[] wrong = {-1, 0, 1, 2, 3, MIN, MAX};
         for (int n : wrong) {
             Check.holds("9: not down", !group.restart(n));
@@ -331,7 +318,7 @@ final class PromiseTest {
     }
 
     private static void promise10Map() {
-        VersionGroup group = calm(4, 3);
+        VersionGroup group = Groups.calm(4, 3);
         int[] sets = {15, 15, 1, 0, 0, -1, MIN, MAX, 16, 255, 6, ~3};
         int[] in = {15, 15, 1, 0, 0, 15, 0, 15, 0, 15, 6, 12};
         for (int i = 0; i < sets.length; i++) {
@@ -379,7 +366,7 @@ final class PromiseTest {
     /** The copies move to quite other nodes and back, with what the first ones know lost. */
     private static void promise11AfterFailures() {
         for (int seed = 0; seed < 50; seed++) {
-            VersionGroup group = calm(6, 3);
+            VersionGroup group = Groups.calm(6, 3);
             int sum = 0;
             for (int round = 0; round < 6; round++) {
                 group.map(round % 2 == 0 ? 0b001011 : 0b110100);
@@ -460,7 +447,7 @@ final class PromiseTest {
     }
 
     private static void promise14Count() {
-        VersionGroup group = calm(5, 2);
+        VersionGroup group = Groups.calm(5, 2);
         int[] wrong = {-1, 6, MIN, MAX};
         for (int what : wrong) {
             Check.due("14: count wrong", group.count(what), REFUSED);

@@ -2,15 +2,21 @@
 final class Check {
     private static int checks;
     private static int wrong;
+    private static String sentence = "";
 
     private Check() {
+    }
+
+    /** The sentence of the document that the next checks are about; promise 0 stands for its terms. */
+    static void about(int promise, String words) {
+        sentence = (promise == 0 ? "Terms" : "Promise " + promise) + ", '" + words + "': ";
     }
 
     static void due(String what, long got, long want) {
         checks++;
         if (got != want) {
             wrong++;
-            System.out.println(what + " answered " + got + ", due is " + want);
+            System.out.println(sentence + what + " answered " + got + ", due is " + want);
         }
     }
 

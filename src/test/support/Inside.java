@@ -1,5 +1,6 @@
 import java.lang.reflect.Array;
 import java.lang.reflect.Field;
+import java.lang.reflect.Modifier;
 
 /** Looks into a group, for what its answers do not show: where each copy stands. */
 final class Inside {
@@ -66,5 +67,30 @@ final class Inside {
 
     boolean arrived(int command) {
         return command < number("desk", "told") || (Boolean) get("desk", "arrived", command % 8);
+    }
+
+    /** All that the group holds, as one text: two are the same if nothing has changed. */
+    String state() {
+        StringBuilder text = new StringBuilder();
+        write(group, text);
+        return text.toString();
+    }
+
+    private static void write(Object place, StringBuilder text) {
+        if (place == null || place instanceof Number || place instanceof Boolean || place instanceof Enum) {
+            text.append(place).append(' ');
+        } else if (place.getClass().isArray()) {
+            for (int i = 0; i < Array.getLength(place); i++) {
+                write(Array.get(place, i), text);
+            }
+        } else {
+            for (Field field : place.getClass().getDeclaredFields()) {
+                // Who is made first holds nothing of who holds it, but for these two that many share.
+                if (!Modifier.isStatic(field.getModifiers()) && (place instanceof VersionGroup
+                        || !field.getName().equals("post") && !field.getName().equals("plan"))) {
+                    write(field(place, field.getName()), text);
+                }
+            }
+        }
     }
 }
