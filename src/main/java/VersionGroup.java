@@ -10,7 +10,7 @@ public final class VersionGroup {
     private static final int WINDOW = 8;
     /** An object is used for at most so many calls, so no more commands come. */
     private static final int CALLS = 512;
-    /** Room for messages under way, above what one tick can send; what finds no room is lost. */
+    /** Room for messages under way: in one epoch a tick sends 39 at most. What finds no room is lost. */
     private static final int ROOM = 64;
     private static final int TICKS_TO_SETTLE = 1000;
     /** Far above what can come between two ticks: a message has at most one reply. */
@@ -773,6 +773,8 @@ public final class VersionGroup {
                     break;
                 case FETCH:
                     post.send(Kind.WHOLE, self, message.from, known.epoch).copy.copyFrom(known.copy, true);
+                    // The leader may have asked because of a report from before a DROP.
+                    owesReport = true;
                     break;
                 case ENTRIES:
                 case WHOLE:

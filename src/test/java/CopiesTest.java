@@ -11,6 +11,7 @@ final class CopiesTest {
         int runs = args.length > 0 ? Integer.parseInt(args[0]) : 300;
         for (int run = 0; run < runs && !Check.failed(); run++) {
             copiesFollowTheLog(run);
+            allIsDoneWithoutANewMap(run);
         }
         worksWithoutSettle();
         movesWithTheMap();
@@ -29,6 +30,7 @@ final class CopiesTest {
         theSameMapAgainChangesNothing();
         aNewLeaderWaitsForJustEnoughNodes();
         aNodeThatWasDownCatchesUp();
+        aLateReportHoldsNobodyUp();
         Check.end();
     }
 
@@ -102,6 +104,29 @@ final class CopiesTest {
                 Check.holds("command " + i + " stands on " + holders + " nodes, " + pair.story(), false);
             }
         }
+    }
+
+    /** Whatever happened: once all nodes are up and all messages come, the last map is enough. */
+    private static void allIsDoneWithoutANewMap(int run) {
+        Random random = new Random(-1 - run);
+        Pair pair = new Pair("without a new map, run " + run, 3 + random.nextInt(4), 2 + random.nextInt(2));
+        for (int i = 0; i < 150; i++) {
+            pair.callByChance(random, run % 4 * 30);
+        }
+        int keepers = Groups.keepers(pair.model.nodes, pair.model.copies, pair.model.count(4));
+        if (keepers == 0) {
+            return;
+        }
+        for (int n = 0; n < pair.model.nodes; n++) {
+            pair.restart(n);
+        }
+        Groups.run(pair.group, 20);
+        Inside inside = new Inside(pair.group);
+        for (int i = 0; i < pair.model.count(0); i++) {
+            Check.holds("command " + i + " is done, " + pair.story(), inside.arrived(i));
+        }
+        dueDone(inside, keepers, pair.model.count(0));
+        Check.due("under way at the end", inside.underWay(), 0);
     }
 
     private static void worksWithoutSettle() {
@@ -395,6 +420,54 @@ final class CopiesTest {
                 Check.due("settle", group.settle(), missed);
                 Check.due("done by node 5 then", inside.done(5, FLUSHED), before + missed);
                 Check.due("the value", group.at(5, 0, 1), before + missed);
+            }
+        }
+    }
+
+    /**
+     * Node 2 reports a command that only it knows, and drops it, for the map has left it out. Then the
+     * leader forgets what it heard, and that report comes once more: it tells of a copy that is gone.
+     */
+    private static void aLateReportHoldsNobodyUp() {
+        Check.about(0, "MESSAGES, which may be lost, come twice, and come in any order");
+        VersionGroup group = new VersionGroup(3, 2);
+        Inside inside = new Inside(group);
+        Groups.run(group, 10);
+        group.give(0, 0, 1);
+        group.deliver(0);
+        group.tick(1);
+        Groups.loseFirst(group, inside.underWay());
+        group.map(0b011);
+        Groups.run(group, 1);
+        Groups.loseFirst(group, inside.place("REPORT", 1));
+        Check.due("the report is of node 2", (Integer) inside.message(0, "from"), 2);
+        Check.due("it tells of the command", (Integer) inside.message(0, "end"), 1);
+        group.crash(2, true);
+        holdBackReportAndCommands(group);
+        Check.holds("the leader is ready", (Boolean) inside.get("nodes", 1, "reports", "ready"));
+        group.restart(2);
+        holdBackReportAndCommands(group);
+        Check.due("node 2 has dropped the command", inside.end(2, FLUSHED), 0);
+        group.crash(1, false);
+        group.restart(1);
+        Check.due("the late report", (Integer) inside.message(0, "end"), 1);
+        group.deliver(0);
+        Groups.run(group, 20);
+        Check.holds("the command is answered all the same", inside.arrived(0));
+        dueDone(inside, 0b011, 1);
+    }
+
+    /** Some ticks in which all messages come but the first, and the commands, which are lost. */
+    private static void holdBackReportAndCommands(VersionGroup group) {
+        Inside inside = new Inside(group);
+        for (int i = 0; i < 5; i++) {
+            group.tick(1);
+            for (int j = 0; j < 1000 && inside.underWay() > 1; j++) {
+                if (inside.message(1, "kind").toString().equals("COMMAND")) {
+                    group.lose(1);
+                } else {
+                    group.deliver(1);
+                }
             }
         }
     }

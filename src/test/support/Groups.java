@@ -72,6 +72,12 @@ final class Groups {
         return group;
     }
 
+    static void loseFirst(VersionGroup group, int messages) {
+        for (int i = 0; i < messages; i++) {
+            group.lose(0);
+        }
+    }
+
     private static void loseAllBut(VersionGroup group, String kind) {
         Inside inside = new Inside(group);
         for (int place = inside.underWay() - 1; place >= 0; place--) {
